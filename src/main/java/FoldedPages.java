@@ -923,12 +923,9 @@ public final class FoldedPages {
         /** Scheme by scheme the most sheets by which the least price can still be reached. */
         private void choose(Told told, int units) {
             int rest = units;
-            for (int k = 0; k < MOST_SCHEMES; k++) {
-                sheetsOf[k] = 0;
-                if (k < told.schemes) {
-                    sheetsOf[k] = mostOf(told, k, rest);
-                    rest -= sheetsOf[k] * told.unitsOf(k);
-                }
+            for (int k = 0; k < told.schemes; k++) {
+                sheetsOf[k] = mostOf(told, k, rest);
+                rest -= sheetsOf[k] * told.unitsOf(k);
             }
         }
 
