@@ -1,3 +1,8 @@
+import java.lang.reflect.Method;
+import java.lang.reflect.Modifier;
+import java.util.Arrays;
+import java.util.Comparator;
+
 /** Compares answers with those that are due; a test ends with exit code 1 if one was not. */
 final class Due {
     private int wrong = 0;
@@ -24,6 +29,30 @@ final class Due {
             wrong++;
             System.out.println(part + ": " + what + " does not hold");
         }
+    }
+
+    /** Each static method without parameters is a test of its own, so that none is forgotten. */
+    void runAll(Class<?> tests) {
+        Method[] all = tests.getDeclaredMethods();
+        Arrays.sort(all, Comparator.comparing(Method::getName));
+        for (Method test : all) {
+            if (Modifier.isStatic(test.getModifiers()) && test.getParameterCount() == 0 && !test.isSynthetic()) {
+                part(test.getName());
+                run(test);
+            }
+        }
+        end();
+    }
+
+    private void run(Method test) {
+        int before = asked;
+        try {
+            test.invoke(null);
+        } catch (ReflectiveOperationException e) {
+            e.printStackTrace(System.out);
+            holds("it runs to its end", false);
+        }
+        holds("it asks something", asked > before);
     }
 
     boolean allRight() {

@@ -44,11 +44,7 @@ public final class EveryBookTest {
     /** An object answers 512 calls, so another one is made in time. */
     private FoldedPages x() {
         if (left == 0) {
-            x = new FoldedPages();
-            for (int i = 0; i < text.length(); i++) {
-                x.write(text.charAt(i));
-            }
-            x.lay();
+            x = Made.laid(text);
             x.spoil(0, 1);
             x.spoil(x.plan(0) / 2, 1);
             left = CALLS - text.length() - 4;

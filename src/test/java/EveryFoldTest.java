@@ -16,7 +16,7 @@ public final class EveryFoldTest {
 
     private static void askSheet(String t) {
         Model.Folded folded = Model.foldedBy(t);
-        FoldedPages x = laid(t);
+        FoldedPages x = Made.laid("k" + t + ";");
         DUE.is("scheme(0, 1)", x.scheme(0, 1), folded.columns());
         DUE.is("scheme(0, 2)", x.scheme(0, 2), folded.rows());
         DUE.is("scheme(0, 3)", x.scheme(0, 3), folded.pages());
@@ -33,7 +33,7 @@ public final class EveryFoldTest {
             int right = at.side() == 0 ? at.c() + 1 : at.c() - 1;
             DUE.is("where(0, " + p + ", 5)", x.where(0, p, 5), folded.pageAt(at.side(), right, at.r()));
         }
-        x = laid(t);
+        x = Made.laid("k" + t + ";");
         DUE.is("turned(0, 0)", x.turned(0, 0), over[0]);
         DUE.is("turned(0, 1)", x.turned(0, 1), over[1]);
         DUE.is("page(0, 0, columns, 0)", x.page(0, 0, folded.columns(), 0), FoldedPages.BAD);
@@ -43,16 +43,6 @@ public final class EveryFoldTest {
             alike += Model.areAlike(t, other) ? 1 : 0;
         }
         DUE.is("alike(0)", x.alike(0), alike);
-    }
-
-    private static FoldedPages laid(String t) {
-        FoldedPages x = new FoldedPages();
-        String item = "k" + t + ";";
-        for (int i = 0; i < item.length(); i++) {
-            x.write(item.charAt(i));
-        }
-        DUE.is("lay()", x.lay(), 1);
-        return x;
     }
 
     private static void findAll(int n) {

@@ -37,25 +37,6 @@ public final class PromisesTest {
         DUE.is(call, got, want);
     }
 
-    private static FoldedPages written(String text) {
-        FoldedPages x = new FoldedPages();
-        writeTo(x, text);
-        return x;
-    }
-
-    private static void writeTo(FoldedPages x, String text) {
-        x.wipe();
-        for (int i = 0; i < text.length(); i++) {
-            x.write(text.charAt(i));
-        }
-    }
-
-    private static FoldedPages laid(String text) {
-        FoldedPages x = written(text);
-        DUE.holds(text + " is laid", x.lay() > 0);
-        return x;
-    }
-
     private static void newObject() {
         DUE.part("promise 1");
         FoldedPages x = new FoldedPages();
@@ -98,7 +79,7 @@ public final class PromisesTest {
 
     private static void wipe() {
         DUE.part("promise 3");
-        FoldedPages x = written("kr;");
+        FoldedPages x = Made.written("kr;");
         is("wipe()", x.wipe(), 3);
         is("wipe() again", x.wipe(), 0);
         is("count(6)", x.count(6), 0);
@@ -108,7 +89,7 @@ public final class PromisesTest {
     }
 
     private static void faultOf(String text, int due) {
-        FoldedPages x = written(text);
+        FoldedPages x = Made.written(text);
         is("fault() of '" + text + "'", x.fault(), due);
         is("count(0) behind it", x.count(0), 3);
     }
@@ -134,7 +115,7 @@ public final class PromisesTest {
     }
 
     private static void layOf(String text, int due) {
-        FoldedPages x = written(text);
+        FoldedPages x = Made.written(text);
         x.spoil(1, 1);
         x.tell(1, 9);
         x.spoil(0, 1);
@@ -160,13 +141,13 @@ public final class PromisesTest {
         layOf("kl;n0;", NO);
         layOf("kl", NO);
         layOf("kl;kl;kl;kl;kl;", NO);
-        FoldedPages x = laid("kbl;n33;c7;m1;p0,3;p0,4;n34;c8;m0;");
+        FoldedPages x = Made.laid("kbl;n33;c7;m1;p0,3;p0,4;n34;c8;m0;");
         int[] counts = {1, 34, 8, 0, 0, 0, 34};
         for (int what = 0; what < counts.length; what++) {
             is("count(" + what + ")", x.count(what), counts[what]);
         }
         is("scheme(0, 4)", x.scheme(0, 4), 4);
-        writeTo(x, "kl;kr;");
+        Made.writeAnew(x, "kl;kr;");
         is("lay() anew", x.lay(), 2);
         is("count(1): 16 without", x.count(1), 16);
         is("count(2): 2 without", x.count(2), 2);
@@ -229,11 +210,11 @@ public final class PromisesTest {
         DUE.part("promise 8");
         FoldedPages x = new FoldedPages();
         for (String text : new String[] {"", "t", "b", "lt", "rrrrr", "x", "R", "rl;", "kr;", " r", "r "}) {
-            writeTo(x, text);
+            Made.writeAnew(x, text);
             is("folds(0) of '" + text + "'", x.folds(0), NO);
             is("folds(3) of '" + text + "'", x.folds(3), BAD);
         }
-        writeTo(x, "rbl");
+        Made.writeAnew(x, "rbl");
         is("folds(1), these", x.folds(1), NO);
         is("count(5): nothing changed", x.count(5), 0);
         x.spoil(1, 1);
@@ -244,12 +225,12 @@ public final class PromisesTest {
         is("scheme(0, 4): the price stays", x.scheme(0, 4), 10);
         is("count(6): THE TEXT stays", x.count(6), 3);
         is("folds(0) again", x.folds(0), NO);
-        writeTo(x, "tbtr");
+        Made.writeAnew(x, "tbtr");
         is("folds(2)", x.folds(2), 4);
         is("fold(2, 2)", x.fold(2, 2), 't');
-        writeTo(x, "l");
+        Made.writeAnew(x, "l");
         is("folds(2) of one", x.folds(2), 1);
-        writeTo(x, "bl");
+        Made.writeAnew(x, "bl");
         is("folds(2): as many figures 0 ahead do not make it the same", x.folds(2), 2);
         for (int k : new int[] {-1, 3, LOW, HIGH}) {
             is("folds(" + k + ")", x.folds(k), BAD);
@@ -258,7 +239,7 @@ public final class PromisesTest {
 
     private static void spoil() {
         DUE.part("promise 9");
-        FoldedPages x = laid("kl;n12;");
+        FoldedPages x = Made.laid("kl;n12;");
         is("spoil(0, 0)", x.spoil(0, 0), NO);
         is("spoil(2, 1)", x.spoil(2, 1), 1);
         is("spoil(0, 1)", x.spoil(0, 1), 2);
@@ -274,7 +255,7 @@ public final class PromisesTest {
             is("spoil(1, " + is + ")", x.spoil(1, is), BAD);
         }
         is("count(4)", x.count(4), 1);
-        FoldedPages y = laid("kl;n400;");
+        FoldedPages y = Made.laid("kl;n400;");
         is("spoil(99, 1), the last of 100", y.spoil(99, 1), 1);
         is("spoil(100, 1)", y.spoil(100, 1), BAD);
         is("missing(0)", y.missing(0), 397);
@@ -287,7 +268,7 @@ public final class PromisesTest {
         x.spoil(1, 1);
         x.tell(0, 5);
         x.price(1, 3);
-        writeTo(x, "rr");
+        Made.writeAnew(x, "rr");
         x.folds(0);
         x.tell(1, 0);
         x.tell(2, 1);
@@ -315,14 +296,14 @@ public final class PromisesTest {
         is("undo() of spoil", x.undo(), 0);
         is("count(4)", x.count(4), 1);
         x.tell(0, 9);
-        writeTo(x, "kl;");
+        Made.writeAnew(x, "kl;");
         x.lay();
         is("undo() behind lay()", x.undo(), NO);
     }
 
     private static void scheme() {
         DUE.part("promise 11");
-        FoldedPages x = laid("kl;ktbbr;krrrr;kbrtl;p2,7;n64;");
+        FoldedPages x = Made.laid("kl;ktbbr;krrrr;kbrtl;p2,7;n64;");
         int[][] due = {{1, 2, 1, 4, 10, 0}, {4, 2, 8, 32, 10, 0}, {4, 16, 1, 32, 7, 2}, {4, 4, 4, 32, 10, 0}};
         for (int k = 0; k < due.length; k++) {
             for (int what = 0; what < 6; what++) {
@@ -339,7 +320,7 @@ public final class PromisesTest {
 
     private static void fold() {
         DUE.part("promise 12");
-        FoldedPages x = laid("kbtlr;kl;");
+        FoldedPages x = Made.laid("kbtlr;kl;");
         int[] due = {'b', 't', 'l', 'r'};
         for (int i = 0; i < 4; i++) {
             is("fold(0, " + i + ")", x.fold(0, i), due[i]);
@@ -357,7 +338,7 @@ public final class PromisesTest {
 
     private static void page() {
         DUE.part("promise 13");
-        FoldedPages x = laid("ktr;");
+        FoldedPages x = Made.laid("ktr;");
         int[][] front = {{3, 6}, {2, 7}};
         int[][] back = {{4, 5}, {1, 8}};
         for (int r = 0; r < 2; r++) {
@@ -377,7 +358,7 @@ public final class PromisesTest {
 
     private static void where() {
         DUE.part("promise 14");
-        FoldedPages x = laid("ktr;");
+        FoldedPages x = Made.laid("ktr;");
         int[][] due = {{1, 0, 1, 0, 2, NONE}, {0, 0, 1, 0, 1, 7}, {0, 0, 0, 1, 4, 6}, {1, 0, 0, 1, 3, NONE},
             {1, 1, 0, 1, 6, 4}, {0, 1, 0, 1, 5, NONE}, {0, 1, 1, 0, 8, NONE}, {1, 1, 1, 0, 7, 1}};
         for (int page = 1; page <= 8; page++) {
@@ -398,7 +379,7 @@ public final class PromisesTest {
 
     private static void turned() {
         DUE.part("promise 15");
-        FoldedPages x = laid("kl;ktr;krbl;ktbbr;");
+        FoldedPages x = Made.laid("kl;ktr;krbl;ktbbr;");
         int[] due = {0, 2, 4, 8};
         for (int k = 0; k < 4; k++) {
             is("turned(" + k + ", 0)", x.turned(k, 0), due[k]);
@@ -441,7 +422,7 @@ public final class PromisesTest {
 
     private static void alike() {
         DUE.part("promise 17");
-        FoldedPages x = laid("kl;kr;kbtrl;krrrr;");
+        FoldedPages x = Made.laid("kl;kr;kbtrl;krrrr;");
         for (int k = 0; k < 4; k++) {
             is("alike(" + k + ")", x.alike(k), 2);
         }
@@ -463,7 +444,7 @@ public final class PromisesTest {
     }
 
     private static void planOf(String text, int... due) {
-        FoldedPages x = laid(text);
+        FoldedPages x = Made.laid(text);
         for (int what = 0; what < 4; what++) {
             is("plan(" + what + ") of " + text, x.plan(what), due[what]);
         }
@@ -494,7 +475,7 @@ public final class PromisesTest {
 
     private static void blanks() {
         DUE.part("promise 20");
-        FoldedPages x = laid("krrrr;krrr;n400;");
+        FoldedPages x = Made.laid("krrrr;krrr;n400;");
         is("blanks(1)", x.blanks(1), 15);
         is("blanks(16)", x.blanks(16), 0);
         is("blanks(17)", x.blanks(17), 15);
@@ -502,7 +483,7 @@ public final class PromisesTest {
         is("blanks(400)", x.blanks(400), 0);
         is("plan(1) stays", x.plan(1), 0);
         is("count(1) stays", x.count(1), 400);
-        FoldedPages y = laid("krrrr;n1;");
+        FoldedPages y = Made.laid("krrrr;n1;");
         is("blanks(400) of sheets of 32", y.blanks(400), 16);
         is("blanks(385) of sheets of 32", y.blanks(385), 31);
         for (int n : new int[] {0, 401, -1, LOW, HIGH}) {
@@ -512,7 +493,7 @@ public final class PromisesTest {
 
     private static void book() {
         DUE.part("promise 21");
-        FoldedPages x = laid("ktr;kl;n11;c3;");
+        FoldedPages x = Made.laid("ktr;kl;n11;c3;");
         is("plan(3)", x.plan(3), 12);
         x.spoil(1, 1);
         int[][] gathered = {{0, 1, 1, 0, 1, 0, 0, ZERO - 1, 0}, {0, 3, 0, 0, 0, 1, 1, ZERO + 2, 0}, {1, 1, 1, 0, 0, 0, 0, ZERO, 1}, {1, 4, 1, 1, 0, 0, 0, ZERO, 0}};
@@ -530,7 +511,7 @@ public final class PromisesTest {
         for (int odd : new int[] {-1, 9, LOW, HIGH}) {
             is("book(1, " + odd + ")", x.book(1, odd), BAD);
         }
-        FoldedPages y = laid("krrr;n16;c1;");
+        FoldedPages y = Made.laid("krrr;n16;c1;");
         is("book(1, 7): half of 3, cut, is 1", y.book(1, 7), ZERO - 1);
         is("book(8, 7)", y.book(8, 7), ZERO + 2);
     }
@@ -545,7 +526,7 @@ public final class PromisesTest {
 
     private static void number() {
         DUE.part("promise 22");
-        FoldedPages x = laid("ktr;kl;n11;");
+        FoldedPages x = Made.laid("ktr;kl;n11;");
         is("number(0, 1)", x.number(0, 1), 1);
         is("number(0, 8)", x.number(0, 8), 8);
         is("number(1, 4): a blank one", x.number(1, 4), 12);
@@ -567,7 +548,7 @@ public final class PromisesTest {
 
     private static void sheet() {
         DUE.part("promise 23");
-        FoldedPages x = laid("ktr;kl;n11;");
+        FoldedPages x = Made.laid("ktr;kl;n11;");
         x.spoil(1, 1);
         int[][] gathered = {{0, 0, 1, 8, 0}, {1, 1, 9, 12, 1}};
         sheetRows(x, gathered);
@@ -580,7 +561,7 @@ public final class PromisesTest {
         for (int odd : new int[] {-1, 5, LOW, HIGH}) {
             is("sheet(0, " + odd + ")", x.sheet(0, odd), BAD);
         }
-        is("sheet(0, 4): 31 of 32", laid("krrrr;n1;").sheet(0, 4), 31);
+        is("sheet(0, 4): 31 of 32", Made.laid("krrrr;n1;").sheet(0, 4), 31);
     }
 
     private static void sheetRows(FoldedPages x, int[][] due) {
@@ -605,7 +586,7 @@ public final class PromisesTest {
 
     private static void missing() {
         DUE.part("promise 24");
-        FoldedPages x = laid("kl;n14;");
+        FoldedPages x = Made.laid("kl;n14;");
         missingOf(x, 0);
         x.spoil(0, 1);
         missingOf(x, 1, 1, 2, 3, 4);
@@ -627,7 +608,7 @@ public final class PromisesTest {
 
     private static void count() {
         DUE.part("promise 25");
-        FoldedPages x = laid("kl;kr;n9;c4;m1;");
+        FoldedPages x = Made.laid("kl;kr;n9;c4;m1;");
         x.spoil(0, 1);
         x.spoil(2, 1);
         int[] due = {2, 9, 4, 1, 2, 2, 15};
