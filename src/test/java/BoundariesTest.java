@@ -60,10 +60,20 @@ public final class BoundariesTest {
         }
     }
 
+    /** Each letter at each place of texts of each length, told by an item and by folds(). */
     static void term1OtherLettersAreNoFolds() {
-        for (int letter = 32; letter <= 126; letter++) {
-            boolean fold = "rltb".indexOf(letter) >= 0;
-            faultOf("k" + (char) letter + "r;", letter == ';' || !fold ? 0 : NONE);
+        for (int many = 1; many <= 4; many++) {
+            for (int place = 0; place < many; place++) {
+                for (int letter = 32; letter <= 126; letter++) {
+                    String folds = "l".repeat(place) + (char) letter + "r".repeat(many - 1 - place);
+                    boolean so = (place == many - 1 ? "rl" : "rltb").indexOf(letter) >= 0;
+                    boolean endsTheItem = letter == ';' && place > 0;
+                    faultOf("k" + folds + ";", so ? NONE : endsTheItem ? place + 2 : 0);
+                    FoldedPages x = Made.laid("ktr;");
+                    Made.writeAnew(x, folds);
+                    is("folds(0) of '" + folds + "'", x.folds(0), so && !folds.equals("tr") ? many : NO);
+                }
+            }
         }
     }
 
