@@ -504,14 +504,15 @@ public final class FoldedPages {
         int readInto(Told told) {
             told.tellNothing();
             int from = 0;
-            while (from < length) {
-                int to = placeOf(';', from, length);
-                if (to < 0 || !readItem(told, from, to)) {
-                    return from;
+            for (int i = 0; i < length; i++) {
+                if (letters[i] == ';') {
+                    if (!readItem(told, from, i)) {
+                        return from;
+                    }
+                    from = i + 1;
                 }
-                from = to + 1;
             }
-            return NONE;
+            return from < length ? from : NONE;
         }
 
         private boolean readItem(Told told, int from, int to) {
@@ -538,7 +539,7 @@ public final class FoldedPages {
         }
 
         private boolean readPrice(Told told, int from, int to) {
-            int comma = placeOf(',', from, to);
+            int comma = commaIn(from, to);
             if (comma < 0) {
                 return false;
             }
@@ -563,10 +564,10 @@ public final class FoldedPages {
             return true;
         }
 
-        /** Answers -1 where no such letter stands from the one place up to ahead of the other. */
-        private int placeOf(char letter, int from, int to) {
+        /** Answers -1 where no comma stands from the one place up to ahead of the other. */
+        private int commaIn(int from, int to) {
             for (int i = from; i < to; i++) {
-                if (letters[i] == letter) {
+                if (letters[i] == ',') {
                     return i;
                 }
             }
